@@ -503,7 +503,10 @@ public final class ModelTest {
         switch (r.nextInt(6)) {
             case 0 -> {
                 boolean one = r.nextInt(4) == 0;
-                int p = odd(r, -9, 9), q = odd(r, -9, 9), y = odd(r, one ? -25 : -6, one ? 25 : 6), z = odd(r, -4, 4);
+                int[] far = farBase(r);
+                boolean near = one || r.nextInt(3) > 0;
+                int p = near ? odd(r, -9, 9) : far[0], q = near ? odd(r, -9, 9) : far[1];
+                int y = near ? odd(r, one ? -25 : -6, one ? 25 : 6) : far[2], z = near ? odd(r, -4, 4) : far[3];
                 both("ring " + one + " " + p + " " + q + " " + y + " " + z, () -> bit(x.ring(one, p, q, y, z)), () -> bit(m.ring(one, p, q, y, z)));
             }
             case 1 -> feedSet(r, x, m);
@@ -525,6 +528,20 @@ public final class ModelTest {
                     int k = r.nextInt(4) == 0 ? odd(r, 0, 441) : r.nextInt(3), what = n == 5 ? odd(r, 0, 2) : n % 3;
                     both("round " + k + " " + what, () -> x.round(k, what), () -> m.round(k, what));
                 }
+            }
+        }
+    }
+
+    /** A BASE of two parts with great parts and a small NORM, as rings with units have them. */
+    private static int[] farBase(Random r) {
+        while (true) {
+            int p = r.nextInt(19) - 9, q = r.nextInt(19) - 9;
+            if (p * p + 4 * q < 0) continue;
+            for (int tries = 0; tries < 200; tries++) {
+                int z = r.nextInt(r.nextBoolean() ? 100000 : 300) + 1;
+                int y = (int) Math.round((-p * (double) z + (r.nextBoolean() ? 1 : -1) * Math.sqrt(p * p + 4 * q) * z) / 2) + r.nextInt(3) - 1;
+                long norm = Math.abs((long) y * y + (long) p * y * z - (long) q * z * z);
+                if (norm >= 2 && norm <= 25 && Math.abs(y) <= 100000) return r.nextBoolean() ? new int[] {p, q, y, z} : new int[] {p, q, -y, -z};
             }
         }
     }
