@@ -216,6 +216,12 @@ public final class PromisesTest {
         no("too great", x.make(7, 5, 6, 3));
         yes("great parts that shrink", x.make(7, 5, 5, 3));
         num(x, 7, 1, 0, 1);
+        yes("by 1", x.make(8, 0, 7, 3));
+        num(x, 8, 1, 2, 3);
+        x.number(7, 0, -1, 1);
+        yes("by -x, whose norm is 1", x.make(8, 0, 7, 3));
+        // 1 / x = 3 - x: (1 + 2x)(x - 3) / 3 = (2xx - 5x - 3) / 3
+        num(x, 8, -5, 1, 3);
     }
 
     private static void part() {
@@ -755,6 +761,24 @@ public final class PromisesTest {
         due("place(3)", x.place(3), 0);
         due("place(4)", x.place(4), NONE);
         due("written(1)", x.written(1), 0);
+        // y of its NEXT is 5 y - 7 z: 1000000 is not beyond, 1000001 is
+        due("lost a step later", x.write(99998, -71430), 2);
+        due("written(0)", x.written(0), 2);
+        due("lost at once", x.write(99994, -71433), 2);
+        due("written(0)", x.written(0), 1);
+        due("lost a step later", x.write(-99998, 71430), 2);
+        due("written(0)", x.written(0), 2);
+        due("lost at once", x.write(-99994, 71433), 2);
+        due("written(0)", x.written(0), 1);
+        // w w = 0, B = 2 -/+ 100000 w: 40 goes to 20 +/- 1000000 w, 40 +/- 2 w to a w beyond
+        for (int sign = -1; sign <= 1; sign += 2) {
+            x.ring(false, 0, 0, 2, -100000 * sign);
+            tape(x, 0, 0, 1, 0, 0, 1, 1, 1);
+            x.set();
+            due("write(40, 0)", x.write(40, 0), sign > 0 ? 0 : 1);
+            due("lost at once", x.write(40, 2 * sign), 2);
+            due("written(0)", x.written(0), 1);
+        }
     }
 
     private static void written() {
