@@ -279,6 +279,14 @@ public final class EdgesOfNumbersTest {
             Edges.num(x, 2, 0, 0, 1);
             Edges.yes("by itself", x.make(0, 0, 0, 3));
             Edges.num(x, 0, 1, 0, 1);
+            // by 1, and by x x = x + 1, which go into all
+            DigitBench unit = pair(5, 3, 2, 1, 0, 1);
+            Edges.yes("by 1", unit.make(2, 0, 1, 3));
+            Edges.num(unit, 2, 5, 3, 2);
+            unit.number(1, 1, 1, 1);
+            Edges.yes("by x x", unit.make(2, 0, 1, 3));
+            // (5 + 3 x) (2 - x) = 7 - 2 x
+            Edges.num(unit, 2, 7, -2, 2);
             // 1 by 1 - x, whose norm is below 0: -x
             DigitBench y = pair(1, 0, 1, 1, -1, 1);
             Edges.yes("1 by 1 - x", y.make(2, 0, 1, 3));
@@ -332,6 +340,9 @@ public final class EdgesOfNumbersTest {
             Edges.due("0 above it", y.compare(1, 0), 1);
             DigitBench z = pair(3, 3, 6, 1, 1, 2);
             Edges.due("the same by other parts", z.compare(0, 1), 0);
+            Edges.due("more by 1/999000", pair(1, 0, 999, 1, 0, 1000).compare(0, 1), 1);
+            Edges.due("less by 1/999000", pair(998, 0, 999, 999, 0, 1000).compare(0, 1), -1);
+            Edges.due("more by (x - 1)/999000", pair(998, 1, 999, 999, 1, 1000).compare(0, 1), 1);
             DigitBench far = Edges.at(9, 9);
             far.number(0, 65536, 65536, 1);
             far.number(1, -65536, -65536, 1);
@@ -429,6 +440,11 @@ public final class EdgesOfNumbersTest {
             Edges.told(Edges.with(9, -4, 0, 1, 597), 2, 0, 400, 0);
         });
         Edges.edge(10, "2 neither in 400 places", () -> Edges.told(Edges.with(1, 1, 1, 0, 1000), 2, 0, 400, 0));
+        Edges.edge(10, "An object is used for at most 512 calls after it has been made", () -> {
+            DigitBench x = Edges.with(1, 1, 1, 0, 175);
+            for (int n = 0; n < 500; n++) Edges.due("digits(0) again", x.digits(0), 1);
+            Edges.due("told(2)", x.told(2), 400);
+        });
         Edges.edge(10, "NONE: no NUMBER, or below 0 (those told before stay told)", () -> {
             Edges.nothing("digits(1)", x -> x.digits(1));
             each(NO_SLOTS, i -> Edges.nothing("digits(" + i + ")", x -> x.digits(i)));
@@ -488,6 +504,14 @@ public final class EdgesOfNumbersTest {
             y.digits(0);
             for (int k = 5; k <= 60; k++) Edges.due("place " + (k + 396), y.digit(-k - 396), y.digit(-k));
             Edges.due("place 796", y.digit(-796), y.digit(-400));
+            // 1/2 by x^2 and by x^4: 0.0(001) and 0.000(001)
+            for (int ahead = 1; ahead <= 3; ahead += 2) {
+                DigitBench half = ahead == 1 ? Edges.with(1, 1, 2, -1, 2) : Edges.with(1, 1, 5, -3, 2);
+                Edges.told(half, 1, 0, ahead, 3);
+                for (int k = 1; k <= 30; k++) Edges.due("digit(-" + k + ")", half.digit(-k), k > ahead && (k - ahead) % 3 == 0 ? 1 : 0);
+                Edges.due("digit(least + 1)", half.digit(LEAST + 1), (MOST - ahead) % 3 == 0 ? 1 : 0);
+                Edges.due("digit(least)", half.digit(LEAST), (MOST - ahead + 1) % 3 == 0 ? 1 : 0);
+            }
             // 0.0(1): the place ahead of the ROUND does not come again
             DigitBench z = Edges.with(3, -1, -5, 2, 1);
             z.digits(0);

@@ -342,6 +342,11 @@ public final class EdgesOfRingsTest {
             // all below 0 come to -1, which stays
             Edges.due("rounds(10)", Edges.ringOfOne(2, 0, 1).rounds(10), 1);
         });
+        Edges.edge(24, "An object is used for at most 512 calls after it has been made", () -> {
+            DigitBench x = byThrees();
+            for (int n = 0; n < 500; n++) Edges.due("rounds(10) again", x.rounds(10), 9);
+            Edges.due("round(8, 2)", x.round(8, 2), -2);
+        });
         Edges.edge(24, "NONE: no SET, another r", () -> {
             DigitBench x = Edges.used();
             x.ring(true, 0, 0, 3, 0);
@@ -359,14 +364,29 @@ public final class EdgesOfRingsTest {
         });
     }
 
+    /** rounds(r) answers so many, each with its length and its least member. */
+    private static void met(DigitBench x, int r, int[][] due) {
+        Edges.due("rounds(" + r + ")", x.rounds(r), due.length);
+        for (int k = 0; k < due.length; k++) {
+            for (int what = 0; what < 3; what++) Edges.due("round(" + k + ", " + what + ")", x.round(k, what), due[k][what]);
+        }
+    }
+
     private static void round() {
         Edges.edge(25, "(in order by their least members)", () -> {
             int[][] due = {{1, -3, -3}, {2, -3, -2}, {1, -3, 0}, {2, -2, -3}, {2, -2, -2}, {2, -2, -1}, {2, -2, 0}, {1, 0, -3}, {2, 0, -2}};
             DigitBench x = byThrees();
-            Edges.due("rounds(3)", x.rounds(3), due.length);
-            for (int k = 0; k < due.length; k++) {
-                for (int what = 0; what < 3; what++) Edges.due("round(" + k + ", " + what + ")", x.round(k, what), due[k][what]);
-            }
+            for (int n = 0; n < 4; n++) met(x, 3, due);
+            met(byThrees(), 10, due);
+            // -10 comes to -2, then -9 to -3, which stands ahead of it
+            met(Edges.ringOfOne(2, 0, 3), 10, new int[][] {{1, -3, 0}, {2, -2, 0}});
+        });
+        Edges.edge(25, "0 how long it is, 1, 2 y, z of its least member (by y, then by z)", () -> {
+            // turned round: 3 stays, and 1 -> 2 -> 1; the least ones are above 0
+            met(Edges.ringOfOne(2, 0, -3), 10, new int[][] {{2, 1, 0}, {1, 3, 0}});
+            met(Edges.ringOfTwo(0, -1, 2, 0, 0, 0, -3, 0, 0, -3, -3, -3), 2, new int[][] {{2, 0, 1}, {2, 1, 0}, {2, 1, 1}, {2, 1, 2}});
+            // -1 -> -3 -> -4 -> -2 -> -1: the least is in the midst
+            met(Edges.ringOfOne(2, 0, 5), 1, new int[][] {{4, -4, 0}});
         });
         Edges.edge(25, "NoSuchElementException: there is none such", () -> {
             DigitBench fresh = new DigitBench();

@@ -72,6 +72,8 @@ public final class EdgesOfRowsTest {
             // 0.1(0), 0.(10)
             isWorth(Edges.at(1, 1), row, 2, 1, -1, 1, 1);
             isWorth(Edges.at(1, 1), row, 2, 2, 1, 0, 1);
+            // ONE's digits by x x = 3 x - 1: 0.2(1)
+            isWorth(Edges.at(3, -1), new int[] {2, 1}, 2, 1, 1, 0, 1);
             for (int round : new int[] {-1, 3, LEAST, MOST}) isRefused(1, 1, row, 2, round);
             isRefused(1, 1, row, 1, 2);
             isRefused(1, 1, row, 0, 1);
@@ -114,6 +116,14 @@ public final class EdgesOfRowsTest {
             // the divisor of x^-6 is 729, that of x^-7 is 6561
             isWorth(Edges.at(9, 9), new int[6], 6, 0, 0, 0, 1);
             isRefused(9, 9, new int[7], 7, 0);
+            // 1 / x = (x - 9) / 9 and 1 / x^2 = (10 - x) / 9: the two are 1/9
+            isWorth(Edges.at(9, 9), new int[] {1, 1}, 2, 0, 1, 0, 9);
+            isWorth(Edges.at(9, 9), new int[] {2, 1}, 2, 0, -8, 1, 9);
+            isWorth(Edges.at(9, 9), new int[] {5, 1, 1}, 2, 0, 46, 0, 9);
+            // b below 0: 1 / x = (9 - x) / 7, x^-3 has the divisor 343, x^-4 has 2401
+            isWorth(Edges.at(9, -7), new int[] {1}, 1, 0, 9, -1, 7);
+            isWorth(Edges.at(9, -7), new int[3], 3, 0, 0, 0, 1);
+            isRefused(9, -7, new int[4], 4, 0);
             // ahead of a ROUND: 0.0..0(0) with 23 and 24 places
             isWorth(Edges.at(1, 1), new int[24], 24, 1, 0, 0, 1);
             isRefused(1, 1, new int[25], 25, 1);
@@ -222,6 +232,9 @@ public final class EdgesOfRowsTest {
             allows(5, -2, 0, 4, 2, 2, 3);
             allows(5, -2, 0, 4, 3);
             allows(5, -2, 0, 5);
+            allows(5, -2, NONE, 0, 4, 2, 2);
+            allows(5, -2, NONE, 3, 4, 1, 4);
+            allows(5, -2, 1, 3, 4, 3);
             allows(3, -1, NONE, 2, 1, 1);
             allows(3, -1, 0, 2, 1, 2);
         });

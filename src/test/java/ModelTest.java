@@ -585,7 +585,7 @@ public final class ModelTest {
     }
 
     public static void main(String[] args) {
-        long seeds = args.length > 0 ? Long.parseLong(args[0]) : 60;
+        long seeds = args.length > 0 ? Long.parseLong(args[0]) : 200;
         long first = args.length > 1 ? Long.parseLong(args[1]) : 1;
         wholesOfEveryBase(new Random(first));
         for (long seed = first; seed < first + seeds; seed++) {
@@ -593,7 +593,9 @@ public final class ModelTest {
             DigitBench x = new DigitBench();
             Model m = new Model();
             log.clear();
-            for (int n = 0; n < 60; n++) {
+            // an object is used for at most 512 calls; a turn takes at most some 40
+            long before = calls;
+            while (calls - before < 460) {
                 if (seed % 2 == 0) partOne(r, x, m); else partTwo(r, x, m);
                 for (int w = -1; w <= 8; w++) { int what = w; both("count " + w, () -> x.count(what), () -> m.count(what)); }
             }
