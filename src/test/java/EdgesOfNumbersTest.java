@@ -171,6 +171,26 @@ public final class EdgesOfNumbersTest {
                 for (int k = -3; k < 3; k++) Edges.none("digit", x.digit(k));
             }
         });
+        Edges.edge(4, "Another BASE: true", () -> {
+            // behind any other one it is as on a new object, with its greatest powers and its longest rows
+            int[][] all = {{9, 9}, {1, 1}, {9, -7}, {3, -1}, {9, 9}, {2, 1}, {1, 1}, {9, 1}, {1, 1}};
+            DigitBench x = new DigitBench();
+            for (int[] n : all) {
+                Edges.yes("base", x.base(n[0], n[1]));
+                DigitBench fresh = Edges.at(n[0], n[1]);
+                Edges.due("rows(16)", x.rows(16), fresh.rows(16));
+                Edges.yes("whole", x.whole(0, 50000));
+                fresh.whole(0, 50000);
+                Edges.num(x, 0, fresh.part(0, 0), fresh.part(0, 1), 1);
+                Edges.due("rank(0)", x.rank(0), 50000);
+                x.number(1, 65536, 65536, 1);
+                fresh.number(1, 65536, 65536, 1);
+                Edges.due("digits(1)", x.digits(1), fresh.digits(1));
+                for (int what = 0; what < 3; what++) Edges.due("told(" + what + ")", x.told(what), fresh.told(what));
+                for (int k = 26; k > 0; k--) Edges.due("digit(" + k + ")", x.digit(k), fresh.digit(k));
+                Edges.none("rank(1)", x.rank(1));
+            }
+        });
         Edges.edge(4, "false, if it is not as told", () -> {
             DigitBench x = Edges.used();
             Edges.refused(x, "base(1, 2)", b -> b.base(1, 2));
