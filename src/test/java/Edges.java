@@ -70,6 +70,10 @@ final class Edges {
             where = "promise " + promise;
             if (!tested.contains(promise)) fault("no edge is tested");
         }
+        close();
+    }
+
+    static void close() {
         System.out.println(edges + " edges, " + (wrong == 0 ? "all hold" : wrong + " answers are not as due"));
         if (wrong != 0) System.exit(1);
     }
