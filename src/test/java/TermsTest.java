@@ -116,7 +116,9 @@ public final class TermsTest {
     private static void digits() {
         int[][] numbers = {{0, 0, 1}, {1, 0, 1}, {0, 1, 1}, {7, 0, 1}, {100, 0, 1}, {1, 0, 2}, {2, 0, 3}, {-1, 1, 1}, {5, 3, 4},
             {-65, 70, 6}, {65536, 65536, 1}, {1, 0, 999}, {65535, 0, 7}};
-        Edges.edge(10, "the greatest whole number of times that the power goes into what is left, which goes off", () -> everyBase((a, b) -> {
+        String greedily = "down to x^0, then behind the point x^-1, x^-2, .. : "
+            + "the greatest whole number of times that the power goes into what is left, which goes off";
+        Edges.edge(10, greedily, () -> everyBase((a, b) -> {
             for (int[] n : numbers) {
                 DigitBench x = Edges.with(a, b, n[0], n[1], n[2]);
                 Edges.yes("digits(0)", x.digits(0) >= 0);
